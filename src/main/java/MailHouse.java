@@ -440,15 +440,17 @@ public final class MailHouse {
             return w < 0 || w >= count ? NONE : others.seek(signs, from[w], from[w + 1] - from[w]);
         }
 
+        /** Below 0, 0 or above 0, by their signs; they are words of this row. */
         int order(int v, int w) {
-            int shorter = Math.min(length(v), length(w));
-            for (int i = 0; i < shorter; i++) {
+            int length = from[v + 1] - from[v];
+            int other = from[w + 1] - from[w];
+            for (int i = 0; i < length && i < other; i++) {
                 int difference = signs[from[v] + i] - signs[from[w] + i];
                 if (difference != 0) {
                     return difference;
                 }
             }
-            return length(v) - length(w);
+            return length - other;
         }
     }
 
@@ -1268,50 +1270,54 @@ public final class MailHouse {
         /** function. */
         static final int FUN_OF = 7;
         /** kind of token. */
-        static final int SIGN = 8;
-        static final int NEGATE = 9;
-        static final int NOT = 10;
+        static final int COMPARE = 8;
+        static final int ARITHMETIC = 9;
+        static final int JOIN = 10;
+        static final int NEGATE = 11;
+        static final int NOT = 12;
         /** where to, if that is false (true). */
-        static final int AND = 11;
-        static final int OR = 12;
-        static final int DROP = 13;
+        static final int AND = 13;
+        static final int OR = 14;
+        static final int DROP = 15;
         /** n: so many names are not bound any more. */
-        static final int FORGET = 14;
-        static final int SEND = 15;
-        /** id. */
-        static final int PREDEFINED = 16;
+        static final int FORGET = 16;
+        static final int SEND = 17;
         /** The first one that says where it goes on. */
-        static final int JUMP = 17;
+        static final int JUMP = 18;
         /** what is tried, where to if it does not fit, a pattern. */
-        static final int FIT = 18;
+        static final int FIT = 19;
         /** a pattern. */
-        static final int MATCH = 19;
+        static final int MATCH = 20;
         /** n names that go, and where to, if it does not hold. */
-        static final int GUARD = 20;
-        static final int HOLDS = 21;
-        static final int GUARDED = 22;
+        static final int GUARD = 21;
+        static final int HOLDS = 22;
+        static final int GUARDED = 23;
         /** how many ARGUMENTS are gone, its line. */
-        static final int CHOSEN = 23;
+        static final int CHOSEN = 24;
         /** function, n, line. */
-        static final int CALL = 24;
-        static final int LAST_CALL = 25;
+        static final int CALL = 25;
+        static final int LAST_CALL = 26;
         /** n, line. */
-        static final int APPLY = 26;
-        static final int LAST_APPLY = 27;
+        static final int APPLY = 27;
+        static final int LAST_APPLY = 28;
         /** where to with what was caught. */
-        static final int CATCH = 28;
-        static final int CAUGHT = 29;
+        static final int CATCH = 29;
+        static final int CAUGHT = 30;
         /** 1: a time waits. */
-        static final int AWAIT = 30;
+        static final int AWAIT = 31;
         /** where to when the time has come. */
-        static final int NEXT = 31;
-        static final int TAKE = 32;
+        static final int NEXT = 32;
+        static final int TAKE = 33;
         /** where to. */
-        static final int SKIP = 33;
-        static final int RETURN = 34;
-        static final int NO_CLAUSE = 35;
-        static final int NO_CASE = 36;
-        static final int NO_CHOICE = 37;
+        static final int SKIP = 34;
+        static final int RETURN = 35;
+        static final int NO_CLAUSE = 36;
+        static final int NO_CASE = 37;
+        static final int NO_CHOICE = 38;
+        /** id. */
+        static final int PREDEFINED = 39;
+        /** id: what is done to another process. */
+        static final int TOWARD = 40;
 
         /** In patterns: tag, value. */
         static final int SAME_TERM = 1;
@@ -1939,13 +1945,30 @@ public final class MailHouse {
                     forget(orMark);
                     code.arrive(or);
                 } else {
-                    if (sign == Tokens.JOIN || sign == Tokens.WITHOUT) {
-                        notInGuard(tree.token[node]);
-                    }
-                    code.put(Code.SIGN);
-                    code.put(sign);
+                    joining(sign, tree.token[node]);
                 }
             }
+        }
+
+        private void joining(int sign, int token) {
+            switch (sign) {
+                case Tokens.JOIN:
+                case Tokens.WITHOUT:
+                    notInGuard(token);
+                    code.put(Code.JOIN);
+                    break;
+                case Tokens.PLUS:
+                case Tokens.MINUS:
+                case Tokens.TIMES:
+                case Tokens.DIV:
+                case Tokens.REM:
+                    code.put(Code.ARITHMETIC);
+                    break;
+                default:
+                    code.put(Code.COMPARE);
+                    break;
+            }
+            code.put(sign);
         }
 
         private void call(int node, boolean last) {
@@ -1961,7 +1984,8 @@ public final class MailHouse {
             }
             row(tree.b[node]);
             if (id != NONE) {
-                code.put(Code.PREDEFINED);
+                boolean toward = id == LINK || id == UNLINK || id == WATCH || id == EXIT_OTHER || id == ALIVE;
+                code.put(toward ? Code.TOWARD : Code.PREDEFINED);
                 code.put(id);
                 return;
             }
@@ -2654,8 +2678,9 @@ public final class MailHouse {
         /** The process of that name, or null. */
         Process named(int atom) {
             for (int p = 0; p < count; p++) {
-                if (processes[p].name == atom && processes[p].state != Process.ENDED) {
-                    return processes[p];
+                Process one = processes[p];
+                if (one != null && one.name == atom && one.state != Process.ENDED) {
+                    return one;
                 }
             }
             return null;
@@ -2795,24 +2820,35 @@ public final class MailHouse {
         void settle() {
             for (; settled < ends; settled++) {
                 Process one = processes[ended[settled]];
+                if (one == null) {
+                    continue;
+                }
                 one.name = NONE;
                 for (int i = 0; i < one.linked; i++) {
-                    Process other = processes[one.links[i]];
-                    other.removeLink(one.number);
-                    signal(one.number, other, one.reason, one.home);
-                }
-                one.linked = 0;
-                int kept = 0;
-                for (int w = 0; w < watches; w++) {
-                    if (watched[w] == one.number) {
-                        post(processes[watchers[w]], WENT_DOWN, one.number, watchedBy[w], one.reason, one.home);
-                    } else if (watchers[w] != one.number) {
-                        keepWatch(w, kept);
-                        kept++;
+                    Process other = find(one.links[i]);
+                    if (other != null) {
+                        other.removeLink(one.number);
+                        signal(one.number, other, one.reason, one.home);
                     }
                 }
-                watches = kept;
+                one.linked = 0;
+                tellWatchers(one);
             }
+        }
+
+        /** Those that watch one hear of it; its own watches go. */
+        private void tellWatchers(Process one) {
+            int kept = 0;
+            for (int w = 0; w < watches; w++) {
+                Process watcher = find(watchers[w]);
+                if (watched[w] == one.number && watcher != null) {
+                    post(watcher, WENT_DOWN, one.number, watchedBy[w], one.reason, one.home);
+                } else if (watchers[w] != one.number) {
+                    keepWatch(w, kept);
+                    kept++;
+                }
+            }
+            watches = kept;
         }
     }
 
@@ -2863,6 +2899,8 @@ public final class MailHouse {
                 int op = code.at(at);
                 if (op == Code.PREDEFINED) {
                     predefined(code.at(at + 1));
+                } else if (op == Code.TOWARD) {
+                    toward(code.at(at + 1));
                 } else if (op < Code.JUMP) {
                     value(op);
                 } else {
@@ -2979,8 +3017,13 @@ public final class MailHouse {
                 case Code.FUN_OF:
                     funOf(operand);
                     break;
-                case Code.SIGN:
-                    sign(operand);
+                case Code.COMPARE:
+                    int order = terms.order(p.cells, frames.below(1), frames.below(0));
+                    answer(2, truth(holds(operand, order)));
+                    at += 2;
+                    break;
+                case Code.ARITHMETIC:
+                    arithmetic(operand);
                     break;
                 case Code.NEGATE:
                     negate();
@@ -3002,6 +3045,13 @@ public final class MailHouse {
                     break;
                 case Code.SEND:
                     sendTo();
+                    break;
+                case Code.JOIN:
+                    if (operand == Tokens.JOIN) {
+                        join();
+                    } else {
+                        without();
+                    }
                     break;
                 default:
                     stopped = true;
@@ -3110,29 +3160,6 @@ public final class MailHouse {
             p.used += 2;
             frames.push(Terms.make(Terms.FUN, start));
             at += 2;
-        }
-
-        private void sign(int kind) {
-            switch (kind) {
-                case Tokens.JOIN:
-                    join();
-                    break;
-                case Tokens.WITHOUT:
-                    without();
-                    break;
-                case Tokens.PLUS:
-                case Tokens.MINUS:
-                case Tokens.TIMES:
-                case Tokens.DIV:
-                case Tokens.REM:
-                    arithmetic(kind);
-                    break;
-                default:
-                    int order = terms.order(p.cells, frames.below(1), frames.below(0));
-                    answer(2, truth(holds(kind, order)));
-                    at += 2;
-                    break;
-            }
         }
 
         private static boolean holds(int kind, int order) {
@@ -3302,12 +3329,7 @@ public final class MailHouse {
 
         private void sendTo() {
             long whom = frames.below(1);
-            Process to = null;
-            if (Terms.tag(whom) == Terms.PROCESS) {
-                to = world.find((int) whom);
-            } else if (Terms.tag(whom) == Terms.ATOM) {
-                to = world.named((int) whom);
-            }
+            Process to = Terms.tag(whom) == Terms.ATOM ? world.named((int) whom) : processAt(1);
             if (to == null) {
                 wrong(BADARG);
                 return;
@@ -3370,13 +3392,13 @@ public final class MailHouse {
                     at++;
                     break;
                 default:
-                    ends(op, operand);
+                    waitOrLeave(op, operand);
                     break;
             }
         }
 
         /** Waiting, returning, and what is done when nothing fits. */
-        private void ends(int op, int operand) {
+        private void waitOrLeave(int op, int operand) {
             switch (op) {
                 case Code.AWAIT:
                     await(operand == 1);
@@ -3637,12 +3659,9 @@ public final class MailHouse {
                 case SPAWN:
                     spawn();
                     break;
-                case LINK:
-                case UNLINK:
-                case WATCH:
-                case EXIT_OTHER:
-                case ALIVE:
-                    toward(id);
+                case PRINT:
+                    world.print(p.cells, frames.below(0));
+                    answer(1, atom(OK));
                     break;
                 case NAME:
                 case UNNAME:
@@ -3680,51 +3699,55 @@ public final class MailHouse {
             answer(1, Terms.make(Terms.PROCESS, child.number));
         }
 
+        /** The process that waits as the k-th term from above, or null. */
+        private Process processAt(int k) {
+            long term = frames.below(k);
+            return Terms.tag(term) == Terms.PROCESS ? world.find((int) term) : null;
+        }
+
         /** What one does to another, which is the first ARGUMENT. */
         private void toward(int id) {
             int taken = id == EXIT_OTHER ? 2 : 1;
-            long whom = frames.below(taken - 1);
-            Process other = Terms.tag(whom) == Terms.PROCESS ? world.find((int) whom) : null;
-            if (other == null) {
+            Process other = processAt(taken - 1);
+            boolean great = id == EXIT_OTHER && terms.size(p.cells, frames.below(0)) > CELLS;
+            if (other == null || great || id == WATCH && world.watches >= MOST_WATCHES) {
                 wrong(BADARG);
                 return;
             }
+            long value = atom(TRUE);
             switch (id) {
                 case LINK:
-                    linkTo(other);
-                    answer(1, atom(TRUE));
+                    if (other.state == Process.ENDED) {
+                        world.signal(other.number, p, atom(NOBODY), null);
+                    } else if (other != p && p.seekLink(other.number) == NONE) {
+                        p.addLink(other.number);
+                        other.addLink(p.number);
+                    }
                     break;
                 case UNLINK:
                     p.removeLink(other.number);
                     other.removeLink(p.number);
-                    answer(1, atom(TRUE));
                     break;
                 case WATCH:
-                    watch(other);
+                    value = watch(other);
                     break;
                 case EXIT_OTHER:
-                    exitOther(other);
+                    if (frames.below(0) == atom(KILL)) {
+                        world.endsBy(other, KILLED);
+                    } else {
+                        world.signal(p.number, other, frames.below(0), p);
+                    }
                     break;
                 default:
-                    answer(1, truth(other.state != Process.ENDED));
+                    value = truth(other.state != Process.ENDED);
                     break;
             }
+            answer(taken, value);
+            at += 2;
         }
 
-        private void linkTo(Process other) {
-            if (other.state == Process.ENDED) {
-                world.signal(other.number, p, atom(NOBODY), null);
-            } else if (other != p && p.seekLink(other.number) == NONE) {
-                p.addLink(other.number);
-                other.addLink(p.number);
-            }
-        }
-
-        private void watch(Process other) {
-            if (world.watches >= MOST_WATCHES) {
-                wrong(BADARG);
-                return;
-            }
+        /** The REFERENCE of the watch. */
+        private long watch(Process other) {
             int reference = world.references;
             world.references++;
             if (other.state == Process.ENDED) {
@@ -3732,21 +3755,7 @@ public final class MailHouse {
             } else if (other != p) {
                 world.addWatch(p.number, other.number, reference);
             }
-            answer(1, Terms.make(Terms.REFERENCE, reference));
-        }
-
-        private void exitOther(Process other) {
-            long term = frames.below(0);
-            if (terms.size(p.cells, term) > CELLS) {
-                wrong(BADARG);
-                return;
-            }
-            if (term == atom(KILL)) {
-                world.endsBy(other, KILLED);
-            } else {
-                world.signal(p.number, other, term, p);
-            }
-            answer(2, atom(TRUE));
+            return Terms.make(Terms.REFERENCE, reference);
         }
 
         private void naming(int id) {
@@ -3769,8 +3778,7 @@ public final class MailHouse {
                 answer(1, atom(TRUE));
                 return;
             }
-            long whom = frames.below(0);
-            Process one = Terms.tag(whom) == Terms.PROCESS ? world.find((int) whom) : null;
+            Process one = processAt(0);
             if (one == null || holder != null || one.name != NONE || one.state == Process.ENDED) {
                 wrong(BADARG);
                 return;
@@ -3810,10 +3818,6 @@ public final class MailHouse {
                     break;
                 case TELL_ERROR:
                     tell(AN_ERROR, NONE, term);
-                    break;
-                case PRINT:
-                    world.print(p.cells, term);
-                    answer(1, atom(OK));
                     break;
                 case REF:
                     answer(0, Terms.make(Terms.REFERENCE, world.references));
