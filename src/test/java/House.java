@@ -4,6 +4,7 @@ import java.util.NoSuchElementException;
 final class House {
     private static int looked;
     private static int wrong;
+    private static String sentence = "";
 
     final MailHouse house = new MailHouse();
 
@@ -166,20 +167,28 @@ final class House {
         return "nothing";
     }
 
+    /** The words of the document that the next answers are looked at for; they are told with what is not as due. */
+    static void says(String words) {
+        sentence = words + "\n  ";
+    }
+
     static void due(String what, long got, long due) {
         looked++;
         if (got != due) {
-            wrong++;
-            System.out.println(brief(what) + ": " + got + ", due is " + due);
+            notAsDue(what, Long.toString(got), Long.toString(due));
         }
     }
 
     static void due(String what, String got, String due) {
         looked++;
         if (got == null ? due != null : !got.equals(due)) {
-            wrong++;
-            System.out.println(brief(what) + ": " + got + ", due is " + due);
+            notAsDue(what, got, due);
         }
+    }
+
+    private static void notAsDue(String what, String got, String due) {
+        wrong++;
+        System.out.println(sentence + brief(what) + ": " + got + ", due is " + due);
     }
 
     private static String brief(String what) {
