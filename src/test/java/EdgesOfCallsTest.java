@@ -60,7 +60,7 @@ public final class EdgesOfCallsTest {
         House high = new House();
         high.house.feed(0x61282920, 0x2d3e2031, 0x2e0a80ff, -1, -1);
         House.due("bytes above 127 are bytes, too", high.house.read(), 1 + 16 * 2);
-        MailHouse full = new MailHouse();
+        Counted full = new Counted();
         for (int i = 1; i < 200; i++) {
             full.feed(i, i, i, i, i);
         }
@@ -140,8 +140,8 @@ public final class EdgesOfCallsTest {
         String[] faulty = {"", "a(", "a() -> " + "(".repeat(20), "a() -> " + "{".repeat(26), "a() -> 1 + 2 * (3 - [4 ++ ", "a() -> \"x", "a() -> fun(X) -> fun(Y) -> case 1 of Z -> {U,",
             "a(X) -> X; b() -> Y.", "a() when self() -> 1.", "a() when 1 -> receive after fun() when c", "a() -> 1" + ",1".repeat(900) + ".", "a() -> catch - not - not @",
             "a(X,Y) -> fun(X) when self() -> Z end.", "a() -> 2147483648."};
-        House x = new House();
         for (String text : faulty) {
+            House x = new House();
             x.feed(text);
             House.due("a fault: " + text, x.house.read() == 0 ? 0 : 1, 1);
             x.feed("b(X) -> X. a() -> Y = " + "(".repeat(21) + "b(1)" + ")".repeat(21) + ", F = fun(X) when X < 3 -> {X,Y} end, print(F(2)), print([4 + 2 * 3 - 1|Y]).");
@@ -550,8 +550,8 @@ public final class EdgesOfCallsTest {
         return all.append(x.output()).toString();
     }
 
-    private static void refusedCallsChangeNothing() {
-        House.says("What throws, or answers NONE for what was asked, changes nothing.");
+    /** An object in the midst of a run, with bytes on its tape. */
+    private static House amidst() {
         House x = House.of("a() -> print(out), X = {1}, P = spawn(fun b/0), link(P), watch(P), self() ! X, P ! {m,X}, Q = spawn(fun() -> 1 end), Q ! 1, f(Q).\n"
             + "b() -> receive stop -> 1 after 9 -> 2 end. c(_) -> 1. f(_) -> 1.");
         x.house.begin(0);
@@ -560,26 +560,57 @@ public final class EdgesOfCallsTest {
         x.house.go(2, 0);
         x.feed("tape");
         x.house.clock(5);
-        String before = state(x);
-        for (int i = 0; i < 3; i++) {
-            House.due("begin", x.thrownByBegin(9) + x.thrownByBegin(2), "NoSuchElementExceptionIllegalArgumentException");
-            House.due("go", x.thrownByGo(0, 501) + x.thrownByGo(9, 1) + x.thrownByGo(1, 1) + x.thrownByGo(2, 1),
-                "IllegalArgumentExceptionNoSuchElementExceptionIllegalStateExceptionIllegalStateException");
-            House.due("clock", x.thrownByClock(-1) + x.thrownByClock(999999996), "IllegalArgumentExceptionIllegalArgumentException");
-            House.due("send", x.thrownBySend(9, 0, 0) + x.thrownBySend(0, 1, 999) + x.thrownBySend(0, 5, 0),
-                "NoSuchElementExceptionNoSuchElementExceptionIllegalArgumentException");
-            House.due("back", x.house.back(5), NONE);
-            House.due("back", x.house.back(-1), NONE);
-            House.due("show", x.house.show(0, 3, 0), NONE);
-            House.due("all is as it was", state(x), before);
+        return x;
+    }
+
+    private static void refuse(House x, int call) {
+        switch (call) {
+            case 0:
+                House.due("begin", x.thrownByBegin(9) + x.thrownByBegin(-1) + x.thrownByBegin(2), "NoSuchElementExceptionNoSuchElementExceptionIllegalArgumentException");
+                break;
+            case 1:
+                House.due("go", x.thrownByGo(0, 501) + x.thrownByGo(9, 1) + x.thrownByGo(1, 1) + x.thrownByGo(2, 1),
+                    "IllegalArgumentExceptionNoSuchElementExceptionIllegalStateExceptionIllegalStateException");
+                break;
+            case 2:
+                House.due("clock", x.thrownByClock(-1) + x.thrownByClock(999999996), "IllegalArgumentExceptionIllegalArgumentException");
+                break;
+            case 3:
+                House.due("send", x.thrownBySend(9, 0, 0) + x.thrownBySend(0, 1, 999) + x.thrownBySend(0, 5, 0),
+                    "NoSuchElementExceptionNoSuchElementExceptionIllegalArgumentException");
+                break;
+            case 4:
+                House.due("back(5)", x.house.back(5), NONE);
+                House.due("back(-1)", x.house.back(-1), NONE);
+                break;
+            default:
+                House.due("show", x.house.show(0, 3, 0), NONE);
+                House.due("process", x.house.process(3, 0), NONE);
+                House.due("frame", x.house.frame(0, 1, 0), NONE);
+                House.due("link", x.house.link(0, 1), NONE);
+                House.due("count", x.house.count(9), NONE);
+                House.due("function", x.house.function(4, 0), NONE);
+                House.due("letter", x.house.letter(99, 0), NONE);
+                House.due("shown", x.house.shown(0), NONE);
+                House.due("printed", x.house.printed(1, 0), NONE);
+                break;
         }
-        for (int i = 0; i < 199; i++) {
-            x.house.feed(0, 0, 0, 0, 0);
+    }
+
+    private static void refusedCallsChangeNothing() {
+        House.says("What throws, or answers NONE for what was asked, changes nothing.");
+        String before = state(amidst());
+        for (int call = 0; call <= 5; call++) {
+            House x = amidst();
+            refuse(x, call);
+            refuse(x, call);
+            House.due("all is as it was behind call " + call, state(x), before);
         }
-        before = state(x);
-        House.due("feed", x.house.feed(1, 1, 1, 1, 1), NONE);
-        House.due("all is as it was", state(x), before);
+        House full = new House().feed("a() -> 1." + " ".repeat(3991));
+        House.due("feed", full.house.feed(-1, -1, -1, -1, -1), NONE);
+        House.due("its bytes are as they were", full.house.read(), 0);
         House.says("Of several exceptions that one goes which the call names first.");
+        House x = amidst();
         House.due("begin: no program, no FUNCTION", new House().thrownByBegin(-1), "IllegalStateException");
         House.due("go: n, no PROCESS", x.thrownByGo(9, 501), "IllegalArgumentException");
         House.due("go: n, ENDED", x.thrownByGo(2, -1), "IllegalArgumentException");

@@ -6,7 +6,7 @@ final class House {
     private static int wrong;
     private static String sentence = "";
 
-    final MailHouse house = new MailHouse();
+    final Counted house = new Counted();
 
     /** Feeds a text, whose bytes are its characters. */
     House feed(String text) {
@@ -69,8 +69,8 @@ final class House {
 
     String line(int i) {
         StringBuilder text = new StringBuilder();
-        for (int k = 0; house.printed(i, k) != MailHouse.NONE; k++) {
-            text.append((char) house.printed(i, k));
+        for (int sign = house.printed(i, 0); sign != MailHouse.NONE; sign = house.printed(i, text.length())) {
+            text.append((char) sign);
         }
         return text.toString();
     }
@@ -103,8 +103,8 @@ final class House {
 
     String atom(int a) {
         StringBuilder text = new StringBuilder();
-        for (int k = 0; house.letter(a, k) != MailHouse.NONE; k++) {
-            text.append((char) house.letter(a, k));
+        for (int sign = house.letter(a, 0); sign != MailHouse.NONE; sign = house.letter(a, text.length())) {
+            text.append((char) sign);
         }
         return text.toString();
     }

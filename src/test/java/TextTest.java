@@ -13,7 +13,7 @@ public final class TextTest {
     }
 
     private static void aNewObject() {
-        MailHouse x = new MailHouse();
+        Counted x = new Counted();
         for (int what = 0; what <= 8; what++) {
             House.due("count " + what + " of a new object", x.count(what), 0);
         }
@@ -31,7 +31,7 @@ public final class TextTest {
     }
 
     private static void feedAndBack() {
-        MailHouse x = new MailHouse();
+        Counted x = new Counted();
         House.due("back(1)", x.back(1), MailHouse.NONE);
         House.due("back(0)", x.back(0), 0);
         for (int i = 1; i <= 200; i++) {

@@ -28,16 +28,16 @@ public final class WildTest {
     /** A sum over all answers of one run of 512 calls. */
     private static long run(int seed) {
         Random random = new Random(seed);
-        MailHouse house = new MailHouse();
+        Counted house = new Counted();
         String text = seed % 2 == 0 ? TEXTS[seed / 2 % TEXTS.length] : soup(random);
         long sum = 0;
-        int calls = 0;
-        for (int i = 0; i < text.length(); i += 20, calls++) {
+        for (int i = 0; i < text.length(); i += 20) {
             sum = sum * 31 + house.feed(word(text, i), word(text, i + 4), word(text, i + 8), word(text, i + 12), word(text, i + 16));
         }
         house.back((20 - text.length() % 20) % 20);
         sum = sum * 31 + house.read();
-        for (calls += 2; calls < 512; calls++) {
+        // One step makes two calls at most.
+        while (house.left() > 1) {
             sum = sum * 31 + one(house, random);
         }
         return sum;
@@ -77,7 +77,7 @@ public final class WildTest {
         }
     }
 
-    private static long one(MailHouse house, Random random) {
+    private static long one(Counted house, Random random) {
         int a = any(random);
         int b = any(random);
         int c = any(random);
