@@ -9,6 +9,7 @@ public final class EdgesOfCallsTest {
         back();
         read();
         readAgain();
+        readMuch();
         count();
         function();
         letter();
@@ -134,12 +135,47 @@ public final class EdgesOfCallsTest {
         House.due("the line of fault 8 is 0", House.fault("a() -> 1" + ",1".repeat(900) + "."), 8);
     }
 
+    private static String row(String ahead, int count, String behind) {
+        StringBuilder text = new StringBuilder();
+        for (int i = 0; i < count; i++) {
+            text.append(ahead).append(i).append(behind);
+        }
+        return text.toString();
+    }
+
+    /** Two texts that need all of the tape, or all that a text may have, one behind the other. */
+    private static void readMuch() {
+        String[] texts = {"a()->1" + ",1".repeat(746) + ".", "a()->X=1" + ",X".repeat(744) + ".", "a()->" + "(1)*".repeat(370) + "1.", "a()->" + "fun()->1 end,".repeat(140) + "1.",
+            "a()->\"" + "x".repeat(40) + "\"" + ",\"yyyyyyyyyyyyyyyyyyyyyyyyyyyyyyyyyyyyyyyy\"".repeat(70) + ".",
+            row("f", 60, "(X)->X+1."), row("f", 61, "(X)->X+1."), "a()->true" + " andalso true orelse false".repeat(140) + ".", "a()->" + "[a|{".repeat(11) + "1" + "}]".repeat(11) + ".",
+            "a()->1" + row(",b", 170, "") + "."};
+        for (String text : texts) {
+            House x = new House();
+            for (int n = 0; n < 4 && x.house.left() > text.length() / 20 + 5; n++) {
+                x.feed(text);
+                House.due("read " + n + " of " + text, x.house.read(), text.contains("f60") ? 8 : 0);
+            }
+        }
+        // Names are numbered anew by each text.
+        House names = new House();
+        for (int n = 0; n < 2; n++) {
+            names.feed("a() -> 1" + row(n == 0 ? ",X" : ",Z", 700, "") + ".");
+            House.due("a text of many names that are not bound", names.house.read(), 5 + 16);
+        }
+        names.feed("a(Y,Z) -> {Y,Z}. b() -> print(a(1,2)).");
+        House.due("a text behind it", names.house.read(), 0);
+        names.house.begin(1);
+        names.house.go(0, 5);
+        House.due("Y and Z are two", names.output(), "{1,2}");
+    }
+
     /** What one text leaves behind must not reach the next one on the same object. */
     private static void readAgain() {
         House.says("The tape's text becomes the program");
         String[] faulty = {"", "a(", "a() -> " + "(".repeat(20), "a() -> " + "{".repeat(26), "a() -> 1 + 2 * (3 - [4 ++ ", "a() -> \"x", "a() -> fun(X) -> fun(Y) -> case 1 of Z -> {U,",
             "a(X) -> X; b() -> Y.", "a() when self() -> 1.", "a() when 1 -> receive after fun() when c", "a() -> 1" + ",1".repeat(900) + ".", "a() -> catch - not - not @",
-            "a(X,Y) -> fun(X) when self() -> Z end.", "a() -> 2147483648."};
+            "a(X,Y) -> fun(X) when self() -> Z end.", "a() -> 2147483648.", "a() -> 1" + row(", A", 41, " = 1") + ".", "a() -> fun() -> 1" + row(", A", 41, " = 1") + " end.",
+            row("f", 61, "() -> 1. "), "a() -> 1" + row(", b", 180, "") + "."};
         for (String text : faulty) {
             House x = new House();
             x.feed(text);
@@ -243,12 +279,16 @@ public final class EdgesOfCallsTest {
             }
             House.due("PROCESS 1", x.house.process(1, 0), NONE);
             House.due("its FUNCTION", x.house.frame(0, 0, 0), 0);
+            House.due("no CLAUSE yet", x.house.frame(0, 0, 1), 0);
+            House.due("no NAMES", x.house.frame(0, 0, 2), 0);
+            House.due("nothing waits", x.house.frame(0, 0, 3), 0);
             House.due("c() is its one CALL", x.house.go(0, 500), 1);
             x.house.clock(9);
             x.house.go(1, 1);
             x.house.go(2, 1);
             House.due("LINK 0", x.house.link(0, 0), 2);
         }
+        beginAmidst();
         x.house.begin(3);
         House.due("no CALL", x.house.go(0, 500), 0);
         House.due("d", x.output(), "d");
@@ -261,6 +301,35 @@ public final class EdgesOfCallsTest {
             House.due("FUNCTION " + far + " without a program", new House().thrownByBegin(far), "IllegalStateException");
         }
         House.due("the run is still there", x.output(), "d");
+    }
+
+    /** Nothing of a run that is left in its midst reaches the next one. */
+    private static void beginAmidst() {
+        House x = House.of("a() -> X = 1, {X, catch {X, c(f(200))}}. b() -> error(b). c(N) -> 1 + d(N). d(_) -> 1. f(0) -> {}; f(N) -> {N,N,N,N}, f(N - 1). g() -> receive 1 -> 2 end.");
+        x.house.begin(0);
+        x.house.go(0, 202);
+        House.due("it stopped ahead of d()", x.house.process(0, 11), 1);
+        House.due("it was CLEARED", x.house.process(0, 3), 2);
+        House.due("two FRAMES", x.house.process(0, 1), 2);
+        x.house.begin(1);
+        House.due("no line", x.house.process(0, 11), 0);
+        House.due("not CLEARED", x.house.process(0, 3), 0);
+        House.due("no CALLS", x.house.process(0, 9), 0);
+        House.due("no cells", x.house.process(0, 2), 0);
+        House.due("one FRAME", x.house.process(0, 1), 1);
+        x.house.go(0, 0);
+        House.due("no catch of before", x.reason(0), "{error,b}");
+        x.house.begin(5);
+        House.due("it has not ENDED", x.house.process(0, 0), 0);
+        House.due("no REASON", x.show(0, 3, 0), null);
+        x.house.go(0, 0);
+        x.house.send(0, 0, 7);
+        x.house.go(0, 0);
+        x.house.begin(5);
+        House.due("an empty BOX", x.house.process(0, 4), 0);
+        x.house.send(0, 0, 1);
+        x.house.go(0, 0);
+        House.due("the first message is tried", x.reason(0), "normal");
     }
 
     private static void go() {
@@ -353,6 +422,7 @@ public final class EdgesOfCallsTest {
             House.due("ATOM " + atom, x.thrownBySend(0, 1, atom), "NoSuchElementException");
         }
         House.due("nothing came", x.house.process(0, 4), 2);
+        sentWithoutRoom();
         House.says("Nothing comes to one that has ENDED, or whose BOX is full.");
         x.house.go(0, 0);
         House.due("it has ENDED", x.reason(0), "normal");
@@ -360,6 +430,25 @@ public final class EdgesOfCallsTest {
         House.due("a TUPLE to it", x.thrownBySend(0, 2, 0), "nothing");
         House.due("its BOX", x.house.process(0, 4), 0);
         House.due("no ATOM is none", x.thrownBySend(0, 1, -1), "NoSuchElementException");
+    }
+
+    private static void sentWithoutRoom() {
+        House.says("A message .. comes to the heap of the one that gets it: if that has no room, it ENDS so .. all ahead of what is done next");
+        House x = House.of("a() -> trap(true), S = self(), P = spawn(fun() -> name(n,self()), link(S), f(mk(249,[])) end), watch(P), receive stop -> 1 end.\n"
+            + "f(L) -> receive stop -> L end. mk(0,A) -> A; mk(N,A) -> mk(N - 1,[N|A]).");
+        x.house.begin(0);
+        x.house.go(0, 9);
+        x.house.go(1, 500);
+        House.due("498 cells can be reached", x.house.process(1, 0), 1);
+        x.house.send(1, 0, 5);
+        House.due("a number needs none", x.house.process(1, 4), 1);
+        x.house.send(1, 2, 5);
+        House.due("3 have no room", x.reason(1), "heap");
+        House.due("the SIGNAL has come", x.show(0, 0, 0), "{exit,<1>,heap}");
+        House.due("and the message of the WATCH", x.show(0, 0, 1), "{down,#0,<1>,heap}");
+        House.due("no LINK is left", x.house.process(0, 5), 0);
+        House.due("no WATCH is left", x.house.process(0, 6), 0);
+        House.due("it may go on", x.house.process(0, 0), 2);
     }
 
     private static void process() {

@@ -31,6 +31,15 @@ public final class EdgesOfProcessTest {
         return x;
     }
 
+    /** The ATOM stop. */
+    private static int stop(House x) {
+        int a = 22;
+        while (a < 200 && !x.atom(a).equals("stop")) {
+            a++;
+        }
+        return a;
+    }
+
     private static void theBox() {
         House.says("a BOX of messages (30 at most: what more comes is lost)");
         House x = begun("main() -> fill(31), receive stop -> 1 end. fill(0) -> ok; fill(N) -> self() ! {N}, fill(N - 1).");
@@ -109,6 +118,19 @@ public final class EdgesOfProcessTest {
         House.due("it waits", x.house.process(0, 0), 1);
         House.due("FRAME 59", x.house.frame(0, 59, 0), 0);
         House.due("FRAME 60", x.house.frame(0, 60, 0), MailHouse.NONE);
+        // All of them may have as many terms that wait, NAMES and catches as they need.
+        House wide = begun("main() -> 1 + f(2). f(60) -> receive stop -> 0 end; f(N) -> {1,2,3,4,5,6,7,[1,2,3,4,5,6,7|f(N + 1)]}.");
+        wide.house.go(0, 500);
+        House.due("14 wait in FRAME 1", wide.house.frame(0, 1, 3), 14);
+        House.due("14 wait in FRAME 58", wide.house.frame(0, 58, 3), 14);
+        House.due("1 waits in FRAME 59", wide.house.frame(0, 59, 3), 1);
+        House named = begun("main() -> print(f(2)). f(60) -> receive stop -> 0 end; f(A) -> {B,C,D,E} = {A,A,A,A}, F = catch 1 + catch f(A + 1), B + C + D + E + F - A * 4.".replace("= catch 1 + catch f(A + 1)", "= (catch 1 + (catch f(A + 1)))"));
+        named.house.go(0, 500);
+        House.due("5 NAMES in FRAME 1", named.house.frame(0, 1, 2), 5);
+        House.due("5 NAMES in FRAME 58", named.house.frame(0, 58, 2), 5);
+        named.house.send(0, 1, stop(named));
+        named.house.go(0, 500);
+        House.due("each of them added 1", named.output(), "58");
         House.says("More than 60 FRAMES: ENDS: stack (that CALL does not count; go() stops ahead of it like ahead of others).");
         House y = begun("main() -> 1 + f(2). f(N) -> 1 +\nf(N + 1).");
         House.due("59 CALLS", y.house.go(0, 59), 59);
@@ -178,6 +200,22 @@ public final class EdgesOfProcessTest {
         House great = House.of("main() -> print(f(mk(250,[]))). f(A) when {A} == {A} -> yes; f(_) -> no." + MAKE);
         great.run(0);
         House.due("{A} is not made", great.output(), "no");
+        // What goes wrong behind a GUARD that holds is told.
+        House.value("catch case 1 of X when X == 1 -> hd([]); _ -> other end", "{error,badarg}");
+        House.value("catch if true -> 1 + a; true -> other end", "{error,badarith}");
+        House.prints("self() ! 1, print(catch receive X when X == 1 -> throw(t); _ -> other end)", "t");
+        House.value("catch (fun(X) when X == 1 -> exit(X) end)(1)", "{exit,1}");
+        House told = House.of("main() -> print(catch f(1)), f(2). f(X) when X > 0 -> error(X); f(_) -> other.");
+        told.run(0);
+        House.due("of a CLAUSE", told.output() + told.reason(0), "{error,1}{error,2}");
+        // What was bound ahead of a P whose GUARD does not hold stays, what it bound is gone.
+        House.value("begin X = 1, Y = 2, case 5 of Z when Z > 9 -> a; U when hd(U) -> b; V -> {X,Y,V} end end", "{1,2,5}");
+        House.value("begin X = 1, case {3,4} of {A,B} when A > B -> a; {B,C} -> {X,B,C} end end", "{1,3,4}");
+        House.prints("X = 1, self() ! 5, receive Z when Z > 9 -> a; V -> print({X,V}) end", "{1,5}");
+        House.prints("X = 1, F = fun(Y) when Y > X -> {X,Y} end, print([catch F(0), F(2)])", "[{error,function_clause},{1,2}]");
+        House bound = begun("main() -> X = 1, case {2,3} of {Y,Z} when Y > Z -> 1; {Y,_} -> f(X,Y) end, 1. f(_,_) -> 1.");
+        bound.house.go(0, 0);
+        House.due("X and Y", bound.house.frame(0, 0, 2), 2);
         House.says("CASES: the first whose P fits and whose GUARD holds; CHOICES: the first whose GUARD holds.");
         House.value("case {1,2} of {2,_} -> a; {_,_,_} -> b; {X,Y} when X > Y -> c; {X,2} -> {d,X}; _ -> e end", "{d,1}");
         House.value("if false -> a; 1 < 2 -> b; true -> c end", "b");
@@ -249,6 +287,8 @@ public final class EdgesOfProcessTest {
         House.value("catch {catch throw(a), throw(b)}", "b");
         House.value("catch {1, catch {2, error(a)}}", "{1,{error,a}}");
         House.ends("catch 1, error(x)", "{error,x}");
+        House.prints("catch print(a), print(b), error(x)", "a/b");
+        House.prints("print([catch 1, catch throw(2)]), print(catch {catch 3, throw(4)}), error(x)", "[1,2]/4");
         House.ends("{catch throw(1), error(x)}", "{error,x}");
         House.says("FRAMES above it are gone, what waited in its own since it began, too");
         House x = begun("main() -> X = 1, {a, catch {b, begin Y = 2, f(X + Y) end}, g()}. f(N) -> {c, h(N)}. h(_) -> throw(up). g() -> 1.");
@@ -391,6 +431,16 @@ public final class EdgesOfProcessTest {
         }
         House.prints("self() ! 1, receive 1 -> print(got) after begin print(first), 0 end -> late end", "first/got");
         House.prints("self() ! 1, receive 1 -> print(got) after infinity -> late end", "got");
+        // A CALL in T is not the LAST: the receive is done behind it.
+        House called = House.of("main() -> receive after f() -> print(late) end. f() -> 0.");
+        called.run(0);
+        House.due("f() ahead of the receive", called.output(), "late");
+        House again = begun("main() -> receive 1 -> f() after 50 -> 2 end. f() -> 1.");
+        again.house.go(0, 0);
+        again.house.send(0, 0, 1);
+        House.due("as it waits", again.house.process(0, 10), 50);
+        again.house.go(0, 0);
+        House.due("as it has taken one, ahead of f()", again.house.process(0, 10), MailHouse.NONE);
         House x = begun("main() -> receive 1 -> got after infinity -> late end.");
         x.house.go(0, 0);
         x.house.clock(1000000000);

@@ -33,6 +33,8 @@ public final class EdgesOfTermsTest {
         used("X = 1, Y = 2, fun() -> {X,Y,X} end", 4);
         used("X = 1, Y = 2, fun(X) -> {X,Y,X} end", 3);
         used("fun main/0", 2);
+        used("fun(_) -> 1 end", 2);
+        used("X = 1, fun(_,{Y,_}) -> _ = Y, [_|_] = X end", 3);
         used("2147483647, -2147483647, abc, self(), ref(), []", 0);
         House.says("STRINGS are lists of numbers.");
         used("\"" + "x".repeat(40) + "\"", 80);

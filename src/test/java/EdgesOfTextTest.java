@@ -49,6 +49,16 @@ public final class EdgesOfTextTest {
         fine(text + " ".repeat(4000 - text.length()));
         fine(" ".repeat(4000 - text.length()) + text);
         fault("\n".repeat(4000), 2, 4001);
+        // A token that ends where the tape does.
+        String[] last = {"a() -> 1. b", "a() -> 12", "a() -> Bc", "a() -> \"", "a() -> \"b", "a() -> 1 -", "a() -> 1 %", "a() -> 99999999999", "a() -> 1. abcdefghijklmnopq"};
+        int[] faults = {2, 2, 2, 1, 1, 2, 2, 1, 1};
+        for (int i = 0; i < last.length; i++) {
+            fault(" ".repeat(4000 - last[i].length()) + last[i], faults[i], 1);
+        }
+        // As many tokens as there can be: none of them is out of reach.
+        fault("a()->1" + ",1".repeat(1996) + ",)", 2, 1);
+        fault("a()->1" + ",1".repeat(1996) + ".", 8, 0);
+        fault("a()->" + "a;".repeat(1997), 2, 1);
         House full = new House().feed("%".repeat(4000));
         House.due("one byte more", full.house.feed(0, 0, 0, 0, 0), MailHouse.NONE);
         House.due("4,000 bytes", full.house.count(3), 4000);
@@ -232,6 +242,20 @@ public final class EdgesOfTextTest {
         fault("a() -> not\ncatch 1.", 2, 2);
         fault("a() -> -\ncatch 1.", 2, 2);
         fine("a() -> [catch 1, (catch 2), {catch 3} | catch 4].");
+        fine("a() -> receive after catch 1 -> catch 2 end, case catch 1 of 1 -> catch 2 end, begin catch 1 end, print(catch 1), 1(catch 2).");
+        fine("a() -> receive 1 -> catch 2 end, if true -> catch 1 end, fun() -> catch 1 end.");
+        House.says("P (a PATTERN) stands where one is wanted");
+        String[] wanted = {"a(P) -> 1.", "a(1,P) -> 1.", "a({P}) -> 1.", "a([P]) -> 1.", "a([1|P]) -> 1.", "a((P)) -> 1.", "a() -> case 1 of P -> 1 end.", "a() -> case 1 of 1 -> 1; {P} -> 1 end.",
+            "a() -> receive P -> 1 end.", "a() -> receive [P] -> 1 end.", "a() -> fun(P) -> 1 end.", "a() -> fun({1,[2|P]}) -> 1 end."};
+        for (String place : wanted) {
+            for (String none : new String[] {"1 + 2", "f()", "X()", "- X", "- - 1", "- (1)", "1()", "catch 1", "begin 1 end", "X = 1", "b ! 1", "not 1", "fun() -> 1 end", "fun a/1", "1 == 1",
+                "case 1 of 1 -> 1 end", "if true -> 1 end", "receive 1 -> 1 end", ",", "."}) {
+                fault(place.replace("P", none), 2, 1);
+            }
+            for (String one : new String[] {"X", "_", "1", "- 1", "b", "\"s\"", "{}", "{X,Y}", "[]", "[X|Y]", "(X)"}) {
+                fine(place.replace("P", one));
+            }
+        }
         House.says("fun ATOM / NUMBER");
         fine("a(_,_) -> fun a/2.");
         fault("a() -> fun\nA/0.", 2, 2);
@@ -341,6 +365,12 @@ public final class EdgesOfTextTest {
         fine("a() -> " + "1 + ".repeat(700) + "1.");
         fine("a() -> 1" + "()".repeat(700) + ".");
         // What is closed is not open any more.
+        String[] closed = {"- 1", "- - not 1", "not true", "_ = 1", "_ = _ = 1", "b ! 1", "catch 1", "{1}", "[1|2]", "(1)", "begin 1 end", "case 1 of {1} when {1} -> 1 end",
+            "if {true} -> 1 end", "receive {1} -> 1 after 1 -> 1 end", "fun({1}) -> 1 end", "print({1})", "1({1})", "case 1 of {(- 1)} -> 1 end"};
+        for (String one : closed) {
+            fine("a() -> " + (one + ", ").repeat(30) + "1.");
+        }
+        fine("a({(1)},[{- 1}|[]],{(1)},[{- 1}|[]],{(1)},[{- 1}|[]]) -> 1.");
         fine("a() -> " + ("(".repeat(23) + "1" + ")".repeat(23) + ", ").repeat(20) + "1.");
     }
 
@@ -508,6 +538,10 @@ public final class EdgesOfTextTest {
         fine("a() -> " + forty + ", fun() -> " + row("A", 0, 40, "", ", ") + " end.");
         fault("a() -> " + forty + ", fun(B) -> " + row("A", 0, 40, "", ", ") + " end.", 8, 0);
         fine("a() -> " + forty + ", fun(A0) -> " + row("A", 0, 40, "", ", ") + " end.");
+        // Each fun is looked at by itself.
+        fine("a() -> " + half + ", fun() -> " + forty.replace('A', 'B') + " end, fun() -> " + row("A", 0, 20, "", ", ") + " end, " + other + ".");
+        fine("a() -> " + half + ", fun() -> " + other + ", fun() -> " + forty.replace('A', 'C') + " end, D = 1 end.");
+        fine("a() -> fun() -> " + half + " end, fun() -> " + forty + " end. b() -> " + forty + ".");
     }
 
     private static void whereNamesEnd() {
