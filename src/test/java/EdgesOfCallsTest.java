@@ -440,6 +440,14 @@ public final class EdgesOfCallsTest {
         x.house.go(0, 9);
         x.house.go(1, 500);
         House.due("498 cells can be reached", x.house.process(1, 0), 1);
+        House full = House.of("a() -> f(mk(250,[])). f(L) -> receive stop -> L end. mk(0,A) -> A; mk(N,A) -> mk(N - 1,[N|A]).");
+        full.house.begin(0);
+        full.house.go(0, 500);
+        House.due("500 cells", full.house.process(0, 2), 500);
+        full.house.send(0, 0, 2147483647);
+        full.house.send(0, 1, 0);
+        House.due("numbers and ATOMS need none", full.house.process(0, 4), 2);
+        House.due("it was not CLEARED", full.house.process(0, 3), 0);
         x.house.send(1, 0, 5);
         House.due("a number needs none", x.house.process(1, 4), 1);
         x.house.send(1, 2, 5);
@@ -496,6 +504,21 @@ public final class EdgesOfCallsTest {
             y.house.go(0, line == 3 ? 0 : 1);
             House.due("the next line", y.house.process(0, 11), line);
         }
+        House z = House.of("a() ->\nb(), c(). b() -> receive stop -> 1 end. c() -> 1.");
+        z.house.begin(0);
+        z.house.go(0, 0);
+        House.due("ahead of b()", z.house.process(0, 11), 2);
+        z.house.go(0, 1);
+        House.due("it WAITS", z.house.process(0, 0), 1);
+        House.due("no line", z.house.process(0, 11), 0);
+        z.house.send(0, 1, z.house.count(2) - 1);
+        House.due("the last ATOM is stop", z.show(0, 0, 0), "stop");
+        House.due("it WAITS still", z.house.process(0, 11), 0);
+        z.house.go(0, 0);
+        House.due("ahead of c()", z.house.process(0, 11), 2);
+        // What comes while it does not WAIT leaves the line.
+        z.house.send(0, 0, 1);
+        House.due("ahead of c() still", z.house.process(0, 11), 2);
     }
 
     private static void frame() {

@@ -15,6 +15,8 @@ public final class EdgesOfEndsTest {
         toOneself();
         links();
         watches();
+        watchesThatStay();
+        againInTheNextRun();
         manyWatches();
         names();
         processes();
@@ -153,6 +155,18 @@ public final class EdgesOfEndsTest {
         gone.settle();
         House.due("to one that has ENDED", gone.output(), "[true,true,false]");
         House.due("its REASON stays", gone.reason(1), "early");
+        House kept = settled("main() -> P = spawn(fun() -> exit({early,[1,2]}) end), receive after 1 -> exit(P,{late,[3,4]}), exit(P,kill), {1,2,3} end.");
+        kept.house.clock(1);
+        kept.settle();
+        House.due("also one that has cells", kept.reason(1), "{early,[1,2]}");
+        // The REASON needs no cells of the one that ENDS, however many it uses, nor those of the one that told it.
+        House full = settled("main() -> P = spawn(fun() -> child(mk(250,[])) end), receive after 1 -> exit(P,{full,[1,2,{3}],\"ab\"}), loop(300) end, receive stop -> 1 end."
+            + " loop(0) -> 1; loop(N) -> {N,N,N,N}, loop(N - 1)." + CHILD);
+        House.due("500 cells", full.house.process(1, 2), 500);
+        full.house.clock(1);
+        full.settle();
+        House.due("its REASON", full.reason(1), "{full,[1,2,{3}],[97,98]}");
+        House.due("the teller was CLEARED since", full.house.process(0, 3) > 1 ? 1 : 0, 1);
     }
 
     private static void toOneself() {
@@ -212,6 +226,45 @@ public final class EdgesOfEndsTest {
         House other = settled("main() -> P = spawn(fun child/0), R = watch(P), spawn(fun() -> print(unwatch(R)) end), receive stop -> 1 end." + CHILD);
         House.due("another's", other.output(), "true");
         House.due("stays", other.house.process(0, 6), 1);
+    }
+
+    /** WATCHES of several by several: those that are left keep who watches, whom, and by which REFERENCE. */
+    private static void watchesThatStay() {
+        House.says("for each WATCH of it, in that order, the watcher gets the message .. and the WATCH goes; its own WATCHES go .. unwatch: it goes, if it is there (a WATCH of one's own)");
+        String text = "main() -> A = spawn(fun child/0), B = spawn(fun child/0), C = spawn(fun child/0), D = spawn(fun child/0), R = watch(D), A ! {watch,C}, watch(A), B ! {watch,A}, watch(C), A ! {watch,D},"
+            + " receive after 1 -> MORE, receive after 1 -> C ! {die,x}, hear() end end." + HEAR + CHILD;
+        String[] more = {"ok", "unwatch(R)", "B ! {die,y}", "A ! {die,z}"};
+        // Process 0 makes R, #1 and #2, 1 then #3 and #4, 2 then #5.
+        String[] heard = {"{down,#2,<3>,x}", "{down,#2,<3>,x}", "{down,#2,<3>,x}", "{down,#1,<1>,z}/{down,#2,<3>,x}"};
+        int[][] left = {{2, 1, 1, 0, 0}, {1, 1, 1, 0, 0}, {2, 1, 0, 0, 0}, {1, 0, 0, 0, 0}};
+        for (int i = 0; i < more.length; i++) {
+            House x = settled(text.replace("MORE", more[i]));
+            House.due("WATCHES of 0", x.house.process(0, 6), 3);
+            House.due("WATCHES of 1", x.house.process(1, 6), 2);
+            House.due("WATCHES of 2", x.house.process(2, 6), 1);
+            for (int n = 0; n < 2; n++) {
+                x.house.clock(1);
+                x.settle();
+            }
+            House.due("what 0 heard, with " + more[i], x.output(), heard[i]);
+            for (int p = 0; p < 5; p++) {
+                House.due("WATCHES of " + p + " then, with " + more[i], x.house.process(p, 6), left[i][p]);
+            }
+            House.due("what 1 heard, with " + more[i], i == 3 ? null : x.show(1, 0, 0), i == 3 ? null : "{down,#3,<3>,x}");
+            House.due("what 2 heard, with " + more[i], i != 3 ? null : x.show(2, 0, 0), i != 3 ? null : "{down,#5,<1>,z}");
+        }
+    }
+
+    private static void againInTheNextRun() {
+        House.says("A run begins anew .. When a PROCESS ENDS with a REASON");
+        House x = House.of("main() -> trap(true), P = spawn(fun child/0), Q = spawn(fun child/0), link(P), watch(Q), name(n,Q), P ! {die,a}, Q ! {die,b}, receive stop -> 1 end." + CHILD);
+        for (int run = 0; run < 3; run++) {
+            x.house.begin(0);
+            x.settle();
+            House.due("LINKS of 0", x.house.process(0, 5), 0);
+            House.due("WATCHES of 0", x.house.process(0, 6), 0);
+            House.due("messages", x.show(0, 0, 0) + x.show(0, 0, 1) + x.show(0, 0, 2), "{exit,<1>,a}{down,#0,<2>,b}null");
+        }
     }
 
     private static void manyWatches() {

@@ -11,6 +11,7 @@ public final class EdgesOfHeapTest {
         whatNeedsNone();
         whatCanBeReached();
         eachOnce();
+        cellsAgain();
         copiesThatAreTooGreat();
         aheadOfAllThatIsWanted();
         tooGreatAndWrong();
@@ -63,6 +64,8 @@ public final class EdgesOfHeapTest {
         with(500, "fun() -> 1 end", 1, "heap");
         with(500, "fun g/1", 1, "heap");
         with(498, "fun g/1", 0, "waits");
+        with(498, "X = {}, fun g/1, X", 1, "heap");
+        with(496, "X = {}, fun g/1, X", 0, "waits");
         with(498, "fun() -> 1 end", 0, "waits");
         with(496, "X = 1, Y = 2, fun() -> {X,Y} end", 0, "waits");
         with(498, "X = 1, fun() -> X end", 1, "heap");
@@ -168,6 +171,21 @@ public final class EdgesOfHeapTest {
         House.due("as they were", x.show(0, 1, 2), "[{{1,2,3,4},{1,2,3,4},{1,2,3,4}},{1,2,3,4}|{{1,2,3,4},{1,2,3,4},{1,2,3,4}}]");
     }
 
+    /** Cells that were used before are as new ones. */
+    private static void cellsAgain() {
+        House.says("a FUN 2 more than it holds .. (since the latest CLEARING)");
+        String loop = " loop(0) -> 1; loop(N) -> {N,N,N,N}, loop(N - 1). g() -> 1.";
+        House x = House.of("main() -> loop(99), X = [9,9,9], X ++ X, F = fun g/0, self() ! {F,[F|F],\"\",{}}, receive stop -> F end." + loop);
+        x.run(0);
+        // 495, then the 6 of X clear; 6 of ++, the FUN 2, the TUPLE with its parts 5 + 2 + 1, its copy 8 and three FUNS.
+        House.due("CLEARED", x.house.process(0, 3), 1);
+        House.due("used", x.house.process(0, 2), 6 + 6 + 2 + 8 + 8 + 6);
+        House.due("the message", x.show(0, 0, 0), "{fun,[fun|fun],[],{}}");
+        House y = House.of("main() -> loop(99), loop(99), F = fun g/0, G = fun g/0, print(F == G), self() ! F, receive X -> print(X == F) end." + loop);
+        y.run(0);
+        House.due("alike", y.output(), "true/true");
+    }
+
     private static void caught(String body, String due) {
         House x = House.of("main() -> " + body + ". g(X) -> X." + MAKE);
         x.run(0);
@@ -193,6 +211,12 @@ public final class EdgesOfHeapTest {
         caught("X = mk(248,[]), Y = 1, print(is_fun(fun() -> {X,Y} end))", "true");
         caught("X = mk(248,[]), Y = 1, Z = 1, print(catch fun() -> {X,Y,Z} end)", no);
         told("X = mk(249,[]), fun() -> X end", no);
+        caught("X = mk(124,[]), Y = mk(124,[]), print(catch fun() -> {X,Y} end)", "fun");
+        caught("X = mk(124,[]), Y = mk(123,[]), Z = {}, print(catch fun() -> {X,Y,Z} end)", "fun");
+        caught("X = mk(123,[]), Y = {X}, Z = X, print(catch fun() -> {X,Y} end)", "fun");
+        // 3 + 2, and 246, 248, 1 (or 2) of what is held.
+        caught("X = mk(123,[]), Y = {X}, Z = {}, print(catch fun() -> {X,Y,Z} end)", "fun");
+        caught("X = mk(123,[]), Y = {X}, Z = {1}, print(catch fun() -> {X,Y,Z} end)", no);
         caught("X = mk(125,[]), print(length(X ++ X))", "250");
         caught("X = mk(126,[]), print(catch X ++ X)", no);
         // Parts count as often as they are met, though they are made once.

@@ -235,7 +235,12 @@ public final class EdgesOfProcessTest {
     }
 
     private static void whatIsTried() {
+        patterns();
         House.says("CASES, funs, CLAUSES: the terms that are tried wait until one fits; then they are gone, but what is bound.");
+        House held = begun("main() -> f(1,2). f(X,Y) when X < Y, true, X /= Y -> {a, begin if X < Y, true -> b end end, case X of 1 when true, true -> c end, g()}. g() -> 1.");
+        held.house.go(0, 1);
+        House.due("what a GUARD has worked out is gone, too", held.house.frame(0, 0, 3), 3);
+        House.due("the first", held.show(0, 2, 0), "a");
         House x = begun("main() -> f({1,2},3). f({A,_},_) -> case {A,[4]} of {_,B} -> {B,g()} end. g() -> 1.");
         x.house.go(0, 1);
         House.due("B waits alone", x.house.frame(0, 0, 3), 1);
@@ -252,6 +257,50 @@ public final class EdgesOfProcessTest {
         House w = House.of("main() -> self() ! {mk(120,[])}, mk(20,[]), receive X when {1,2,3,4,5,6,7,8} == X -> no; {X} when {1,2,3,4,5,6,7,8} == X -> no; {[A|_]} -> print(A) end." + MAKE);
         w.run(0);
         House.due("of receive, too", w.output(), "1");
+    }
+
+    /** Which terms of each kind a P fits. */
+    private static void fits(String pattern, String due) {
+        StringBuilder fit = new StringBuilder();
+        for (String term : new String[] {"97", "a", "ref()", "fun main/0", "self()", "{}", "{97}", "{97,98}", "[]", "[97]", "[97,98]", "[97|98]", "[97,99]", "[98,98]", "[97,98,99]", "[{}]"}) {
+            House x = House.of("main() -> case " + term + " of " + pattern + " -> print(fits); _ -> print(no) end.");
+            x.run(0);
+            fit.append(x.output().equals("fits") ? "+" : x.output().equals("no") ? "-" : "?");
+        }
+        House.due(pattern + " of 97 a ref fun self {} {97} {97,98} [] [97] [97,98] [97|98] [97,99] [98,98] [97,98,99] [{}]", fit.toString(), due);
+    }
+
+    private static void patterns() {
+        House.says("P: a NAME, number (also with - ahead), ATOM, STRING, { P, .. }, [ P, .. ], [ P, .. | P ], ( P )");
+        fits("X", "++++++++++++++++");
+        fits("_", "++++++++++++++++");
+        fits("97", "+---------------");
+        fits("- 97", "----------------");
+        fits("a", "-+--------------");
+        fits("{}", "-----+----------");
+        fits("{_}", "------+---------");
+        fits("{97}", "------+---------");
+        fits("{98}", "----------------");
+        fits("{_,_}", "-------+--------");
+        fits("{X,X}", "----------------");
+        fits("[]", "--------+-------");
+        fits("\"\"", "--------+-------");
+        fits("[_]", "---------+-----+");
+        fits("[_|_]", "---------+++++++");
+        fits("[97|_]", "---------++++-+-");
+        fits("[_,_]", "----------+-++--");
+        fits("[_,_|_]", "----------+-+++-");
+        fits("[X,X]", "-------------+--");
+        fits("[_|98]", "-----------+----");
+        fits("\"a\"", "---------+------");
+        fits("\"ab\"", "----------+-----");
+        fits("\"abc\"", "--------------+-");
+        fits("\"abcd\"", "----------------");
+        fits("[97|\"b\"]", "----------+-----");
+        fits("[{}]", "---------------+");
+        fits("([({})])", "---------------+");
+        House.prints("case -7 of 7 -> print(no); -7 -> print(yes) end", "yes");
+        House.prints("case \"" + "z".repeat(40) + "\" of \"" + "z".repeat(39) + "y\" -> print(no); \"" + "z".repeat(40) + "\" -> print(yes) end", "yes");
     }
 
     private static void wrong() {
@@ -329,6 +378,7 @@ public final class EdgesOfProcessTest {
     }
 
     private static void without() {
+        House.value("{[70,80,90,75] ++ [85], [70,80,90,75] -- [75], [70,80,90,75] -- [80,70], [70,80,90,75] -- [85]}", "{[70,80,90,75,85],[70,80,90],[90,75],[70,80,90,75]}");
         House.says("--: for each part of the second list, in order, the first part of the first one that is alike goes");
         House.value("{[1,2,1,2] -- [2], [1,2,1,2] -- [2,2], [1,2,1,2] -- [2,2,2], [a,{b},[c]] -- [[c],{b}], [] -- [1], [1] -- []}",
             "{[1,1,2],[1,1],[1,1],[a],[],[1]}");

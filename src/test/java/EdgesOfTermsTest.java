@@ -13,6 +13,7 @@ public final class EdgesOfTermsTest {
         whatIsTaken();
         partsOfTerms();
         tests();
+        values();
         House.close();
     }
 
@@ -91,6 +92,12 @@ public final class EdgesOfTermsTest {
         House x2 = House.of("main() -> P = spawn(fun other/0), R = ref(), S = ref(), print([self() < P, P < self(), R < S, S < R, R =< R]). other() -> 1.");
         x2.run(0);
         House.due("by their numbers", x2.output(), "[true,false,true,false,true]");
+        // What is alike is neither below nor above.
+        for (String one : new String[] {"1", "a", "{}", "{1,[a]}", "[]", "[1|2]", "self()", "fun main/0"}) {
+            House.value("[X < Y, X =< Y, X == Y, X /= Y, X >= Y, X > Y]".replace("X", one).replace("Y", one), "[false,true,true,false,true,false]");
+        }
+        House.value("[1 < 2, 1 =< 2, 1 == 2, 1 /= 2, 1 >= 2, 1 > 2]", "[true,true,false,true,false,false]");
+        House.value("[2 < 1, 2 =< 1, 2 == 1, 2 /= 1, 2 >= 1, 2 > 1]", "[false,false,false,true,true,true]");
         House.says("ATOMS (by their signs)");
         House.value("[ab < abc, abc < ab, a < b, b < a, aA < aa, a1 < aA, aZ < a_, a_ < aa]", "[true,false,true,false,true,true,true,true]");
         // They are numbered otherwise: true is 0, ok is 2.
@@ -177,8 +184,36 @@ public final class EdgesOfTermsTest {
             }
         }
         House.says("trap(B): what it was (true or false; at first false)");
+        House.value("{trap(true), exit(self(),x), trap(false)}", "{false,true,true}");
         House.value("[trap(false), trap(true), trap(true), trap(false), trap(false)]", "[false,false,true,true,false]");
         House.says("named(A): the PROCESS, or none");
         House.value("[named(a), name(a,self()), named(a), named(b), unname(a), named(a)]", "[none,true,<0>,none,true,none]");
+    }
+
+    /** Each E stands between two others, which must be there behind it. */
+    private static void values() {
+        House.says("PREDEFINED .. self(), spawn(F) (a FUN without PATTERNS): the new PROCESS; link(P), unlink(P): true; watch(P): a REFERENCE ..");
+        String[][] values = {{"self()", "<0>"}, {"spawn(fun() -> 1 end)", "<1>"}, {"link(self())", "true"}, {"unlink(self())", "true"}, {"watch(self())", "#0"},
+            {"unwatch(ref())", "true"}, {"trap(true)", "false"}, {"exit(spawn(fun() -> 1 end),x)", "true"}, {"print(c)", "ok"}, {"ref()", "#0"},
+            {"name(n,self())", "true"}, {"named(n)", "none"}, {"alive(self())", "true"}, {"now()", "0"}, {"is_number(1)", "true"}, {"is_atom(1)", "false"},
+            {"is_list([])", "true"}, {"is_tuple({})", "true"}, {"is_fun(1)", "false"}, {"is_process(1)", "false"}, {"is_ref(1)", "false"}, {"hd([1,2])", "1"},
+            {"tl([1,2])", "[2]"}, {"length([1,2])", "2"}, {"element(2,{c,d})", "d"}, {"size({1,2})", "2"},
+            {"1 + 2", "3"}, {"1 - 2", "-1"}, {"2 * 3", "6"}, {"7 div 2", "3"}, {"7 rem 2", "1"}, {"1 == 2", "false"}, {"1 < 2", "true"}, {"[70,80,90] ++ [75]", "[70,80,90,75]"},
+            {"[70,80,90,75,85] -- [75]", "[70,80,90,85]"}, {"- 1", "-1"}, {"not true", "false"}, {"true andalso c", "c"}, {"false andalso c", "false"}, {"false orelse c", "c"},
+            {"true orelse c", "true"}, {"self() ! c", "c"}, {"_ = c", "c"}, {"{1,{2}}", "{1,{2}}"}, {"[70|80]", "[70|80]"}, {"[70,80,90]", "[70,80,90]"}, {"\"FPZ\"", "[70,80,90]"},
+            {"begin 1, 2, c end", "c"}, {"case 1 of 1 -> c end", "c"}, {"if true -> c end", "c"}, {"receive after 0 -> c end", "c"}, {"fun() -> 1 end", "fun"}, {"fun main/0", "fun"},
+            {"(fun(X) -> [X] end)(7)", "[7]"}, {"catch c", "c"}, {"catch throw(c)", "c"}, {"catch exit(c)", "{exit,c}"}, {"catch error(c)", "{error,c}"}, {"catch hd(c)", "{error,badarg}"},
+            {"catch (1 = 2)", "{error,{badmatch,2}}"}, {"(c)", "c"}, {"{}", "{}"}, {"[]", "[]"}, {"\"\"", "[]"}};
+        for (String[] one : values) {
+            House x = House.of("main() -> Z = {a, (" + one[0] + "), b}, print(Z).");
+            x.run(0);
+            House.due(one[0], x.line(x.house.count(5) - 1), "{a," + one[1] + ",b}");
+        }
+        House.prints("print(print(a)), name(n,self()), print({unname(n), named(n)})", "a/ok/{true,none}");
+        House.says("Alike .. (of fun f / n: the same f and n)");
+        House first = House.of("f(X,Y) -> {f,X,Y}. main() -> F = fun f/2, print({F(1,2), catch F(1)}), spawn(fun last/0). last() -> print(last).");
+        first.house.begin(1);
+        first.settle();
+        House.due("FUNS of the first FUNCTION and of the last", first.output(), "{{f,1,2},{error,{badarity,1}}}/last");
     }
 }
