@@ -156,6 +156,27 @@ public final class EdgesOfCallsTest {
                 House.due("read " + n + " of " + text, x.house.read(), text.contains("f60") ? 8 : 0);
             }
         }
+        // The greatest texts leave as much room as there was.
+        House great = new House();
+        for (int n = 0; n < 2; n++) {
+            great.feed("a()->1" + "+1".repeat(1996) + ".");
+            House.due("too many tokens", great.house.read(), 8);
+        }
+        great.feed("f(X) -> {X + 1,[X]}. a() -> Y = f(1), print({Y,f(2),f(3) == f(4)}).");
+        House.due("a text behind them", great.house.read(), 0);
+        great.house.begin(1);
+        great.house.go(0, 9);
+        House.due("it works", great.output(), "{{2,[1]},{3,[2]},false}");
+        House funs = new House();
+        for (int n = 0; n < 3; n++) {
+            funs.feed("a()->" + "fun()->1 end,".repeat(150) + "1.");
+            House.due("many funs", funs.house.read(), 0);
+        }
+        funs.feed("a() -> F = fun() -> 1 end, G = fun(_) -> 2 end, print({F(),G(3),F == G}).");
+        House.due("a text behind them", funs.house.read(), 0);
+        funs.house.begin(0);
+        funs.house.go(0, 9);
+        House.due("F and G are two", funs.output(), "{1,2,false}");
         // Names are numbered anew by each text.
         House names = new House();
         for (int n = 0; n < 2; n++) {

@@ -181,7 +181,12 @@ public final class EdgesOfHeapTest {
         House.due("CLEARED", x.house.process(0, 3), 1);
         House.due("used", x.house.process(0, 2), 6 + 6 + 2 + 8 + 8 + 6);
         House.due("the message", x.show(0, 0, 0), "{fun,[fun|fun],[],{}}");
-        House y = House.of("main() -> loop(99), loop(99), F = fun g/0, G = fun g/0, print(F == G), self() ! F, receive X -> print(X == F) end." + loop);
+        House twice = House.of("main() -> loop(250), F = fun g/0, self() ! {F,[F|F],\"\",{}}, receive stop -> F end." + loop);
+        twice.run(0);
+        House.due("CLEARED twice", twice.house.process(0, 3), 2);
+        House.due("used then", twice.house.process(0, 2), 250 + 2 + 8 + 8 + 6);
+        House.due("the message", twice.show(0, 0, 0), "{fun,[fun|fun],[],{}}");
+        House y = House.of("main() -> loop(250), F = fun g/0, G = fun g/0, print(F == G), self() ! F, receive X -> print(X == F) end." + loop);
         y.run(0);
         House.due("alike", y.output(), "true/true");
     }
