@@ -1213,7 +1213,7 @@ public final class MailHouse {
                 return tree.add(Tree.FUN_OF, token, tokens.value[atom], tokens.value[number], 0);
             }
             need(Tokens.LEFT);
-            int place = code.addPlace(tokens.line[token]);
+            int place = code.addPlace();
             int patterns = rowUpTo(true, MOST_ARGUMENTS, Tokens.RIGHT);
             int part = part(token, patterns);
             int last = need(Tokens.CLOSING);
@@ -1269,7 +1269,7 @@ public final class MailHouse {
         static final int FUN = 6;
         /** function. */
         static final int FUN_OF = 7;
-        /** kind of token. */
+        /** kind of token; the first one that works on what waits. */
         static final int COMPARE = 8;
         static final int ARITHMETIC = 9;
         static final int JOIN = 10;
@@ -1350,7 +1350,6 @@ public final class MailHouse {
         final int[] clauses = new int[FUNCTIONS];
         final int[] entry = new int[FUNCTIONS];
         int places;
-        final int[] placeLine = new int[MOST_PLACES];
         final int[] placeArity = new int[MOST_PLACES];
         final int[] placeEntry = new int[MOST_PLACES];
         /** Where in the row the names stand that it holds, ahead of them how many. */
@@ -1374,11 +1373,10 @@ public final class MailHouse {
             functions++;
         }
 
-        int addPlace(int itsLine) {
+        int addPlace() {
             if (places >= MOST_PLACES) {
                 return 0;
             }
-            placeLine[places] = itsLine;
             places++;
             return places - 1;
         }
@@ -1453,7 +1451,7 @@ public final class MailHouse {
         private final int[] base = new int[MOST_LEVELS];
         private final int[] most = new int[MOST_LEVELS];
         private int level;
-        /** Of each NAME's token: the level at which it is bound. */
+        /** Of each NAME's token: the level at which it was bound ahead of it; MOST_LEVELS: at none. */
         private final int[] where = new int[TAPE + 2];
         private boolean crowded;
         private boolean inGuard;
@@ -1649,7 +1647,6 @@ public final class MailHouse {
                 code.put(Code.BIND);
                 code.put(name);
                 bind(name);
-                where[token] = level;
             }
         }
 
@@ -1713,7 +1710,6 @@ public final class MailHouse {
                     string(node);
                     break;
                 case Tree.NAME:
-                    where[token] = MOST_LEVELS;
                     if (tree.a[node] == 0 || !isBound(tree.a[node], token, 0)) {
                         fault(token, 5);
                     }
@@ -2901,6 +2897,8 @@ public final class MailHouse {
                     predefined(code.at(at + 1));
                 } else if (op == Code.TOWARD) {
                     toward(code.at(at + 1));
+                } else if (op < Code.COMPARE) {
+                    making(op);
                 } else if (op < Code.JUMP) {
                     value(op);
                 } else {
@@ -2990,8 +2988,8 @@ public final class MailHouse {
             guard = 0;
         }
 
-        /** What makes terms of terms. */
-        private void value(int op) {
+        /** What brings a term, or makes it of its parts. */
+        private void making(int op) {
             int operand = code.at(at + 1);
             switch (op) {
                 case Code.TERM:
@@ -3017,6 +3015,16 @@ public final class MailHouse {
                 case Code.FUN_OF:
                     funOf(operand);
                     break;
+                default:
+                    stopped = true;
+                    break;
+            }
+        }
+
+        /** What works out a sign, and what lets go of terms and names. */
+        private void value(int op) {
+            int operand = code.at(at + 1);
+            switch (op) {
                 case Code.COMPARE:
                     int order = terms.order(p.cells, frames.below(1), frames.below(0));
                     answer(2, truth(holds(operand, order)));
