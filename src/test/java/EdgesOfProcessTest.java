@@ -158,6 +158,19 @@ public final class EdgesOfProcessTest {
     }
 
     private static void lastOnes() {
+        House.says("It is the LAST of its FRAME if nothing of the FRAME is done behind it: it stands last in the BODY of a CLAUSE or fun, or last in a BODY of begin, or in a CASE's, CHOICE's or after's BODY, of what stands so itself (also in ( ); what is behind andalso, orelse, = or in catch does not stand so)");
+        String[] last = {"g()", "1, g()", "((g()))", "begin g() end", "begin 1, begin 2, g() end end", "case 1 of 2 -> 1; 1 -> g(); _ -> 2 end", "if false -> 1; true -> 2, g() end",
+            "receive after 0 -> g() end", "receive 1 -> 2 after 0 -> 3, (g()) end", "self() ! 7, receive 7 -> g() after 0 -> 1 end", "(fun() -> g() end)()", "(fun g/0)()", "h()()", "i()(1)",
+            "X = 1, case X of Y when Y == X -> begin if true -> (g()) end end end"};
+        for (String body : last) {
+            framesOf(body, 1);
+        }
+        String[] others = {"g(), 1", "begin g() end, 1", "begin g(), 1 end", "1 + g()", "g() + 1", "- g()", "not g()", "1 == g()", "[] ++ g()", "[] -- g()", "true andalso g()", "false orelse g()", "g() andalso 1",
+            "X = g()", "(X = g())", "catch g()", "(catch g())", "catch begin g() end", "catch case 1 of _ -> g() end", "{g()}", "[g()]", "[1|g()]", "self() ! g()", "g() ! 1", "print(g())", "k(g())",
+            "case g() of _ -> 1 end", "receive after g() -> 1 end", "g()()", "(g())(1)", "(fun(_) -> 1 end)(g())", "case 1 of _ -> g() end, 1", "if true -> g() end + 1", "X = begin g() end"};
+        for (String body : others) {
+            framesOf(body, 2);
+        }
         House.says("(A PROCESS's first FRAME is there as it begins, of a FUN with its HELD ones; its CLAUSES are tried when it goes on first.)");
         House x = begun("main() -> X = {a}, Y = 2, spawn(fun() when Y > X -> {X,Y} end), spawn(fun() when Y < X -> idle() end), receive stop -> 1 end." + IDLE);
         House.due("its FRAME", x.house.process(0, 1), 1);
@@ -179,6 +192,13 @@ public final class EdgesOfProcessTest {
         House.due("it waits", y.house.process(0, 0), 1);
         House z = begun("main() -> catch f(1), catch (fun(2) -> 1 end)(1), receive stop -> 1 end. f(2) -> 1.");
         House.due("one without a fitting CLAUSE is one", z.house.go(0, 500), 2);
+    }
+
+    /** How many FRAMES there are in g(), which a FUNCTION with this BODY calls. */
+    private static void framesOf(String body, int due) {
+        House x = House.of("main() -> f(). f() -> " + body + ". g() -> receive stop -> 1 end. h() -> fun m/0. i() -> fun m/1. m() -> g(). m(_) -> g(). k(_) -> 1.");
+        x.run(0);
+        House.due("FRAMES in g() of " + body, x.house.process(0, 1), due);
     }
 
     private static void guards() {
