@@ -573,6 +573,27 @@ public final class EdgesOfCallsTest {
         House.due("none ahead of c()", y.house.frame(0, 0, 3), 0);
         y.house.go(0, 1);
         House.due("the FUN and six", y.house.frame(0, 0, 3), 7);
+        framesOfFuns();
+    }
+
+    private static void framesOfFuns() {
+        House.says("FRAMES: of a FUNCTION's or FUN's CLAUSE .. 0 its FUNCTION (of a FUN: NONE)");
+        House x = House.of("a() -> F = fun b/1, P = spawn(fun c/0), {P, F(1)}.\nb(X) ->\n [c(), X].\nc() -> receive stop -> 1 end.");
+        x.house.begin(0);
+        x.house.go(0, 500);
+        House.due("called as fun b/1, its CLAUSE is that of b", x.house.frame(0, 1, 0), 1);
+        House.due("and so is its line", x.house.frame(0, 1, 1), 2);
+        House.due("it holds nothing", x.house.frame(0, 1, 2), 1);
+        House.due("begun as fun c/0", x.house.frame(1, 0, 0), 2);
+        House.due("none of its CLAUSES was chosen yet", x.house.frame(1, 0, 1), 0);
+        x.house.go(1, 0);
+        House.due("then one is", x.house.frame(1, 0, 1), 4);
+        House.says("1 the line of its CLAUSE's or fun's first token");
+        House y = House.of("a() -> (fun\n(X)\n->\n {b(X)} end)(1).\nb\n(_)\n-> receive stop -> 1 end.");
+        y.house.begin(0);
+        y.house.go(0, 500);
+        House.due("that of the word fun", y.house.frame(0, 1, 1), 1);
+        House.due("that of the ATOM", y.house.frame(0, 0, 1), 5);
     }
 
     private static void link() {
@@ -597,6 +618,20 @@ public final class EdgesOfCallsTest {
         }
         House.due("PROCESS 4", x.house.link(4, 0), NONE);
         House.due("of PROCESS 3", x.house.link(3, 0), 0);
+        // Whichever goes, the others keep their order.
+        for (int gone = 1; gone <= 4; gone++) {
+            House y = House.of("a() -> l(s()), l(s()), l(s()), l(s()), receive {P,0} -> unlink(P) end, receive stop -> 1 end."
+                + " l(P) -> link(P), P ! self(). s() -> spawn(fun() -> receive P -> receive N -> P ! {self(),N} end, receive stop -> 1 end end end).");
+            y.house.begin(0);
+            y.settle();
+            y.house.send(gone, 0, 0);
+            y.settle();
+            int[] kept = {gone == 1 ? 2 : 1, gone <= 2 ? 3 : 2, gone <= 3 ? 4 : 3, NONE};
+            for (int i = 0; i < kept.length; i++) {
+                House.due("LINK " + i + " without " + gone, y.house.link(0, i), kept[i]);
+            }
+            House.due("that of the other one is gone, too", y.house.link(gone, 0), NONE);
+        }
     }
 
     private static void show() {
@@ -639,6 +674,16 @@ public final class EdgesOfCallsTest {
         House.due("a short one", y.house.show(0, 3, 0), 1);
         House.due("sign 0", y.house.shown(0), 'b');
         House.due("sign 1", y.house.shown(1), NONE);
+        // show() alone says what SHOWN becomes.
+        y.house.begin(0);
+        House.due("behind begin()", y.house.shown(0), 'b');
+        y.feed("a() -> c.");
+        House.due("behind feed()", y.house.shown(0), 'b');
+        House.due("read", y.house.read(), 0);
+        House.due("behind read()", y.house.shown(0), 'b');
+        House.due("a text that is no program", y.house.read(), 18);
+        House.due("behind that", y.house.shown(0), 'b');
+        House.due("and nothing more", y.house.shown(1), NONE);
     }
 
     private static void printed() {

@@ -133,6 +133,18 @@ public final class EdgesOfEndsTest {
         // {down, R, P, x} has 5 cells.
         House.due("no room for the message of a WATCH", watch.reason(2), "heap");
         House.due("who watches that one hears of it", watch.output(), "{down,#0,<2>,heap}");
+        House.says("Cells are wanted .. together .. for all of a copy");
+        // {exit, P, {x}} has 4 and 2 cells, {down, R, P, {x}} 5 and 2; a list of n has 2 * n.
+        for (int n = 245; n <= 249; n++) {
+            House exit = settled("main() -> P = spawn(fun child/0), Q = spawn(fun child/0), P ! {link,Q}, Q ! {trap,true}, Q ! {make," + n + "}, receive after 1 -> P ! {die,{x}} end." + CHILD);
+            exit.house.clock(1);
+            exit.settle();
+            House.due("a SIGNAL's message beside " + 2 * n, exit.reason(2), 2 * n + 6 <= 500 ? null : "heap");
+            House down = settled("main() -> P = spawn(fun child/0), Q = spawn(fun child/0), Q ! {watch,P}, Q ! {make," + n + "}, receive after 1 -> P ! {die,{x}} end." + CHILD);
+            down.house.clock(1);
+            down.settle();
+            House.due("that of a WATCH beside " + 2 * n, down.reason(2), 2 * n + 7 <= 500 ? null : "heap");
+        }
     }
 
     private static void exitOther() {

@@ -421,6 +421,11 @@ public final class EdgesOfProcessTest {
         used("self() ! a", 0);
         used("self() ! \"ab\"", 4 + 4);
         House.prints("X = {1}, print(self() ! {X,X})", "{{1},{1}}");
+        // 4 cells and a copy of 4; w(246) makes 492 that nothing reaches; then {} has no room: both of them stay.
+        House itself = begun("main() -> X = (self() ! {a,b,c}), w(246), {}, f(X). f(_) -> 1. w(0) -> ok; w(N) -> [N], w(N - 1).");
+        itself.house.go(0, 247);
+        House.due("CLEARED", itself.house.process(0, 3), 1);
+        House.due("T itself, the copy and {}", itself.house.process(0, 2), 4 + 4 + 1);
         House.says("Nothing comes to one that has ENDED, or whose BOX is full.");
         House x = begun("main() -> P = spawn(fun() -> 1 end), receive 1 -> print(P ! {x}) end.");
         x.house.go(0, 0);
@@ -533,6 +538,18 @@ public final class EdgesOfProcessTest {
         House.due("the time stays", y.house.process(0, 10), 15);
         y.house.go(0, 0);
         House.due("its BODY", y.output(), "22");
+        House v = begun("main() -> receive 1 -> print(got) after 10 -> print(now()) end.");
+        v.house.go(0, 0);
+        for (int i = 0; i < 3; i++) {
+            v.house.clock(3);
+            v.house.send(0, 0, 2);
+            v.house.go(0, 0);
+            House.due("messages that do not fit leave the time as it is", v.house.process(0, 10), 10);
+            House.due("it waits", v.house.process(0, 0), 1);
+        }
+        v.house.clock(1);
+        v.house.go(0, 0);
+        House.due("ten behind the beginning", v.output(), "10");
         // A message that fits goes ahead of the time.
         House z = begun("main() -> receive 1 -> print(got) after 5 -> print(late) end.");
         z.house.go(0, 0);
