@@ -11,6 +11,7 @@ public final class EdgesOfCallsTest {
         readAgain();
         readMuch();
         count();
+        referencesMade();
         function();
         letter();
         begin();
@@ -208,6 +209,16 @@ public final class EdgesOfCallsTest {
             x.house.go(0, 9);
             House.due("it works", x.output(), "{2,1}/[9|1]");
         }
+        House.says("6 ATOM ( .. ) and fun ATOM / NUMBER that are no FUNCTION");
+        House gone = House.of("a() -> b(). b() -> c(1). c(X) -> X.");
+        gone.feed("a() -> b().");
+        House.due("b was one of the text before", gone.house.read(), 22);
+        gone.feed("a() -> fun b/0.");
+        House.due("for a fun, too", gone.house.read(), 22);
+        gone.feed("a() -> 1. b() -> c(1).");
+        House.due("and c", gone.house.read(), 22);
+        gone.feed("a() -> 1. c(X) -> X. b() -> c(1).");
+        House.due("there they are", gone.house.read(), 0);
     }
 
     private static void count() {
@@ -237,6 +248,15 @@ public final class EdgesOfCallsTest {
             House.due("ATOM " + (22 + a), y.atom(22 + a), due[a]);
         }
         House.due("ATOMS", y.house.count(2), 28);
+    }
+
+    private static void referencesMade() {
+        House.says("8 REFERENCES made");
+        for (String none : new String[] {"error(a)", "exit(a)", "throw(a)", "trap(true)", "now()", "self()", "watch(a)", "unwatch(1)", "link(self())", "name(a,self())", "hd([])"}) {
+            House x = House.of("a() -> (catch " + none + "), ref().");
+            x.run(0);
+            House.due("none by " + none, x.house.count(8), 1);
+        }
     }
 
     private static void function() {
@@ -326,6 +346,17 @@ public final class EdgesOfCallsTest {
 
     /** Nothing of a run that is left in its midst reaches the next one. */
     private static void beginAmidst() {
+        House.says("A run begins anew");
+        // Of the terms that wait, are bound or in the BOX as the first run is left nothing stays when the heap is CLEARED.
+        House heap = House.of("main() -> X = mk(20,[]), self() ! X, [X, {mk(21,[]), stop()}]. other() -> w(250), {}, stop(). stop() -> receive x -> 1 end."
+            + " mk(0,A) -> A; mk(N,A) -> mk(N - 1,[N|A]). w(0) -> ok; w(N) -> [N], w(N - 1).");
+        heap.house.begin(0);
+        heap.house.go(0, 500);
+        House.due("it waits", heap.house.process(0, 0), 1);
+        heap.house.begin(1);
+        heap.house.go(0, 500);
+        House.due("CLEARED", heap.house.process(0, 3), 1);
+        House.due("{} alone", heap.house.process(0, 2), 1);
         House x = House.of("a() -> X = 1, {X, catch {X, c(f(200))}}. b() -> error(b). c(N) -> 1 + d(N). d(_) -> 1. f(0) -> {}; f(N) -> {N,N,N,N}, f(N - 1). g() -> receive 1 -> 2 end.");
         x.house.begin(0);
         x.house.go(0, 202);
@@ -574,6 +605,23 @@ public final class EdgesOfCallsTest {
         y.house.go(0, 1);
         House.due("the FUN and six", y.house.frame(0, 0, 3), 7);
         framesOfFuns();
+        afterAFunWasCalled();
+    }
+
+    private static void afterAFunWasCalled() {
+        // The FUN that is called is the first that waits in the first FRAME, and then in one above it.
+        House x = House.of("a() -> F = fun(X,Y) -> [b(X)], Y end, F(1,2), G = fun() -> b(3) + 1 end, Z = G(), b(Z). b(X) -> X.");
+        x.house.begin(0);
+        x.house.go(0, 1);
+        House.due("its FRAME", x.house.process(0, 1), 2);
+        House.due("nothing waits beneath it", x.house.frame(0, 1, 3), 0);
+        x.house.go(0, 1);
+        House.due("the next FUN alone waits", x.house.frame(0, 0, 3), 1);
+        x.house.go(0, 1);
+        House.due("and nothing beneath it, when it is called", x.house.frame(0, 1, 3), 0);
+        x.house.go(0, 1);
+        House.due("the ARGUMENT of the last CALL alone waits", x.house.frame(0, 0, 3), 1);
+        House.due("it", x.show(0, 2, 0), "4");
     }
 
     private static void framesOfFuns() {

@@ -18,6 +18,7 @@ public final class EdgesOfEndsTest {
         watchesThatStay();
         againInTheNextRun();
         manyWatches();
+        refusedOnesChangeNothing();
         names();
         processes();
         House.close();
@@ -301,6 +302,15 @@ public final class EdgesOfEndsTest {
         House.due("of the other one", all.house.process(2, 6), 120);
     }
 
+    private static void refusedOnesChangeNothing() {
+        House.says("WRONG .. badarg (PREDEFINED ones with terms that they do not take");
+        // unwatch(0) is not unwatch(#0); trap(a) is not trap(false).
+        House x = settled("main() -> P = spawn(fun child/0), R = watch(P), print([R, catch unwatch(0), catch unwatch(a), catch unwatch(P)]), P ! {die,x}, hear()." + HEAR + CHILD);
+        House.due("the WATCH stays", x.output(), "[#0,{error,badarg},{error,badarg},{error,badarg}]/{down,#0,<1>,x}");
+        House.prints("trap(true), print([catch trap(a), catch trap(0), catch trap([])]), print(trap(false)), print(catch trap(1)), print(trap(true))",
+            "[{error,badarg},{error,badarg},{error,badarg}]/true/{error,badarg}/false");
+    }
+
     private static void names() {
         House.says("name: an ATOM to one that goes on; badarg, if it is named so already, or that one has a name, or has ENDED; unname: badarg, if none is named so.");
         House.prints("P = spawn(fun() -> 1 end), print([name(a,P), catch name(a,self()), catch name(a,P), catch name(b,P), name(b,self())])",
@@ -321,6 +331,25 @@ public final class EdgesOfEndsTest {
     }
 
     private static void processes() {
+        House.says("named(A): the PROCESS, or none");
+        String idle = " idle() -> receive stop -> 1 end.";
+        House all = settled("main() -> L = s(23), name(a,hd(L)), name(b,self()), print([named(a),named(b),named(c)]), print(catch c ! 1). s(0) -> []; s(N) -> [spawn(fun idle/0)|s(N - 1)]." + idle);
+        House.due("24 of them", all.house.count(4), 24);
+        House.due("with all of them there", all.output(), "[<1>,<0>,none]/{error,badarg}");
+        House.says("At most 24 PROCESSES ever .. unlink, unwatch: it goes, if it is there");
+        String[] whichGo = {"unlink(hd(L))", "exit(hd(L),kill)", "unlink(e(L))", "exit(e(L),kill)", "unlink(23)"};
+        for (String goes : whichGo) {
+            House linked = settled("main() -> trap(true), L = s(23), catch " + goes + ", receive stop -> L end. e([P]) -> P; e([_|T]) -> e(T). s(0) -> []; s(N) -> P = spawn(fun idle/0), link(P), [P|s(N - 1)]." + idle);
+            int first = goes.contains("hd") ? 2 : 1;
+            int last = goes.contains("e(L)") ? 22 : 23;
+            House.due("LINKS behind " + goes, linked.house.process(0, 5), last - first + 1);
+            House.due("the first one", linked.house.link(0, 0), first);
+            House.due("the last one", linked.house.link(0, last - first), last);
+        }
+        House again = House.of("main() -> name(a,spawn(fun idle/0)), name(b,self()). other() -> print([named(a),named(b)]), P = spawn(fun idle/0), print([named(a),named(b)]), print(name(a,P))." + idle);
+        again.run(0);
+        again.run(1);
+        House.due("names of the run before are gone", again.output(), "[none,none]/[none,none]/true");
         House.says("At most 24 PROCESSES ever: spawn beyond that: badarg.");
         House x = settled("main() -> s(22), print(spawn(fun() -> 1 end)), print(catch spawn(fun() -> 1 end)), receive after 1 -> print(catch spawn(fun() -> 1 end)) end. s(0) -> ok; s(N) -> spawn(fun() -> 1 end), s(N - 1).");
         House.due("the 24th, and no more", x.output(), "<23>/{error,badarg}");

@@ -99,6 +99,10 @@ public final class EdgesOfHeapTest {
         with(494, "\"abcd\"", 1, "heap");
         with(490, "X = [1,2], X ++ b", 0, "waits");
         with(494, "X = [1,2], X ++ b", 1, "heap");
+        with(488, "X = [1,2,3], X ++ b", 0, "waits");
+        with(490, "X = [1,2,3], X ++ b", 1, "heap");
+        with(480, "X = [1,2,3,4,5], X ++ X", 0, "waits");
+        with(482, "X = [1,2,3,4,5], X ++ X", 1, "heap");
         with(488, "X = [1,2,3], X -- [3]", 0, "waits");
         with(490, "X = [1,2,3], X -- [3]", 1, "heap");
         with(490, "[1,2,3] -- [3]", 1, "heap");
@@ -233,6 +237,19 @@ public final class EdgesOfHeapTest {
         caught("X = mk(124,[]), print(length([X,X]))", "2");
         caught("X = mk(124,[]), print(catch [1,X,X])", no);
         caught("X = mk(124,[]), F = fun() -> X end, print(is_tuple(catch {F}))", "true");
+        // FUNS among parts: F has 3 + 240 cells as a copy, {F, F} 3 + 486, [F, F] 4 + 486.
+        caught("X = mk(120,[]), F = fun() -> X end, print({F,F})", "{fun,fun}");
+        caught("X = mk(120,[]), F = fun() -> X end, print(catch {F,F,F})", no);
+        caught("X = mk(120,[]), F = fun() -> X end, print([F,F])", "[fun,fun]");
+        caught("X = mk(120,[]), F = fun() -> X end, print(catch [F,F,F])", no);
+        caught("X = mk(120,[]), F = fun() -> X end, T = {F}, print(catch {T,T})", "{{fun},{fun}}");
+        caught("X = mk(120,[]), F = fun() -> X end, T = {F}, print(catch {T,T,F})", no);
+        caught("X = mk(120,[]), F = fun() -> X end, G = fun() -> F end, print(catch {G,G})", "{fun,fun}");
+        caught("X = mk(120,[]), F = fun() -> X end, G = fun() -> F end, print(catch {G,G,1,2,3,4,5})", "{fun,fun,1,2,3,4,5}");
+        caught("X = mk(120,[]), F = fun() -> X end, G = fun() -> F end, print(catch {G,G,1,2,3,4,5,6})", no);
+        // What was compared before leaves nothing behind: {B} has 2 + 493 cells.
+        caught("A = mk(61,[]), B = {A,A,A,A}, X = {[1,2,3,4,5,6],1}, print(X == {[0],1}), print(is_tuple({B}))", "false/true");
+        caught("A = mk(61,[]), B = {A,A,A,A}, X = {[1,2,3,4,5,6],1}, print(length([X] -- [{[0],1}])), print(is_tuple({B}))", "1/true");
     }
 
     private static void aheadOfAllThatIsWanted() {
@@ -326,6 +343,23 @@ public final class EdgesOfHeapTest {
         y.house.send(1, 2, 6);
         House.due("3 more", y.reason(1), "heap");
         House.due("CLEARED again", y.house.process(1, 3), 2);
+        // A FUN in a message has cells, too: {F} 2 + 3, beside 490 and 494 + 2 of the other one.
+        for (int n = 245; n <= 249; n++) {
+            House z = House.of("main() -> P = spawn(fun() -> idle(mk(" + n + ",[])) end), receive go -> 1 after 0 -> 1 end, X = 1, F = fun() -> X end, P ! a, receive after 1 -> P ! {F} end. idle(L) -> receive stop -> L end." + MAKE);
+            z.house.begin(0);
+            z.settle();
+            z.house.clock(1);
+            z.settle();
+            House.due("a FUN in a TUPLE beside " + 2 * n, z.reason(1), 2 * n + 5 <= 500 ? null : "heap");
+        }
+        House twice = House.of("main() -> P = spawn(fun idle/0), P ! {}, f(), P ! [[1],[2]], f(). f() -> 1." + IDLE);
+        for (int run = 1; run <= 3; run++) {
+            twice.house.begin(0);
+            twice.house.go(0, 0);
+            House.due("a FUN and {}, in run " + run, twice.house.process(1, 2), 3);
+            twice.house.go(0, 500);
+            House.due("and a list of two lists", twice.house.process(1, 2), 3 + 8);
+        }
         House full = House.of("main() -> P = spawn(fun idle/0), spawn(fun() -> idle() end), X = mk(250,[]), length(X)." + IDLE + MAKE);
         full.run(0);
         House.due("a FUN has its copy there", full.house.process(2, 2), 2);

@@ -414,6 +414,11 @@ public final class EdgesOfProcessTest {
         used("X = [1,2,3,4], X -- []", 8);
     }
 
+    /** As print writes it. */
+    private static String term(String written) {
+        return written.replace("[[1]|[2]]", "[[1],2]").replace("\"ab\"", "[97,98]").replace("\"c\"", "[99]");
+    }
+
     private static void sending() {
         House.says("! : a copy of T (each PAIR, TUPLE and FUN as often as it is met) comes to the end of the BOX; T itself is the value.");
         used("X = {1}, self() ! {X,X}", 2 + 3 + 3 + 2 + 2);
@@ -426,6 +431,12 @@ public final class EdgesOfProcessTest {
         itself.house.go(0, 247);
         House.due("CLEARED", itself.house.process(0, 3), 1);
         House.due("T itself, the copy and {}", itself.house.process(0, 2), 4 + 4 + 1);
+        // Heads, tails, parts and held ones that have cells themselves
+        for (String term : new String[] {"[{a,1},[b],{}]", "[[[1]]]", "[[1]|[2]]", "[{1}|{2}]", "{[{1}],{[2]}}", "{{{}}}", "[\"ab\",\"c\"]", "{[],[[]],{}}", "[{a}]", "[[a]]"}) {
+            House.prints("P = spawn(fun() -> receive {Q,X} -> Q ! [X], Q ! {X,X} end end), P ! {self()," + term + "}, receive [X] -> print(X) end, receive {Y,Z} -> print(Y), print(Y == Z) end", term(term) + "/" + term(term) + "/true");
+            House.prints("X = " + term + ", P = spawn(fun() -> print(X), print([X] == [" + term + "]) end), receive after 0 -> 1 end", term(term) + "/true");
+            House.prints("self() ! " + term + ", receive X -> print(X), print(X == " + term + ") end", term(term) + "/true");
+        }
         House.says("Nothing comes to one that has ENDED, or whose BOX is full.");
         House x = begun("main() -> P = spawn(fun() -> 1 end), receive 1 -> print(P ! {x}) end.");
         x.house.go(0, 0);
