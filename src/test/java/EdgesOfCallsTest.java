@@ -184,11 +184,11 @@ public final class EdgesOfCallsTest {
             names.feed("a() -> 1" + row(n == 0 ? ",X" : ",Z", 700, "") + ".");
             House.due("a text of many names that are not bound", names.house.read(), 5 + 16);
         }
-        names.feed("a(Y,Z) -> {Y,Z}. b() -> print(a(1,2)).");
+        names.feed("a(Yyyyyyyy,Zzzzzzzz) -> {Yyyyyyyy,Zzzzzzzz}. b() -> print(a(1,2)).");
         House.due("a text behind it", names.house.read(), 0);
         names.house.begin(1);
         names.house.go(0, 5);
-        House.due("Y and Z are two", names.output(), "{1,2}");
+        House.due("both are two", names.output(), "{1,2}");
     }
 
     /** What one text leaves behind must not reach the next one on the same object. */

@@ -247,6 +247,11 @@ public final class EdgesOfHeapTest {
         caught("X = mk(120,[]), F = fun() -> X end, G = fun() -> F end, print(catch {G,G})", "{fun,fun}");
         caught("X = mk(120,[]), F = fun() -> X end, G = fun() -> F end, print(catch {G,G,1,2,3,4,5})", "{fun,fun,1,2,3,4,5}");
         caught("X = mk(120,[]), F = fun() -> X end, G = fun() -> F end, print(catch {G,G,1,2,3,4,5,6})", no);
+        // What waits beside it is none of its parts: B has 5 + 400 cells as a copy.
+        for (String made : new String[] {"A ++ A", "[A,A]", "[A|A]", "{A,A}", "fun() -> A end", "\"" + "x".repeat(40) + "\""}) {
+            caught("A = mk(50,[]), B = {A,A,A,A}, print(B == (" + made + "))", "false");
+            caught("A = mk(50,[]), B = {A,A,A,A}, print(B == g(" + made + "))", "false");
+        }
         // What was compared before leaves nothing behind: {B} has 2 + 493 cells.
         caught("A = mk(61,[]), B = {A,A,A,A}, X = {[1,2,3,4,5,6],1}, print(X == {[0],1}), print(is_tuple({B}))", "false/true");
         caught("A = mk(61,[]), B = {A,A,A,A}, X = {[1,2,3,4,5,6],1}, print(length([X] -- [{[0],1}])), print(is_tuple({B}))", "1/true");
